@@ -35,6 +35,7 @@ public final class PromiseTest {
         promises44and45();
         promise46();
         emptyDistrict();
+        fullDistrict();
         Calls.finish("PromiseTest");
     }
 
@@ -880,5 +881,51 @@ public final class PromiseTest {
         due("family of nobody", y.family(0), NONE);
         due("changes of nobody", y.changes(0), 0);
         due("changed of nobody", y.changed(), 0);
+    }
+
+    /** As many of each sort as there may be. */
+    private static void fullDistrict() {
+        StringBuilder text = new StringBuilder("street a;street b;street c;street d;tram t;tram u;tram v;mark m 1 1;mark n 1 2;mark o 1 10;");
+        for (int p = 0; p < 10; p++) {
+            text.append("person p").append((char) ('a' + p)).append(' ').append("abcd".charAt(p % 4)).append(" man ").append(2 * p).append(';');
+            text.append("rides p").append((char) ('a' + p)).append(" t;");
+        }
+        OboeDistrict x = Calls.town(text.toString());
+        due("sets", x.count(4), 12);
+        due("all", x.members(0), 1023);
+        due("even", x.members(3), 0x155);
+        due("odd", x.members(4), 0x2AA);
+        due("street a", x.members(5), 0x111);
+        due("street d", x.members(8), 0x088);
+        due("tram t", x.members(9), 1023);
+        due("tram v", x.members(11), 0);
+        due("no set", x.members(12), NONE);
+        // All, men, tram t: 10 each; even, odd: 5 each; streets: 3, 3, 2, 2.
+        due("off of all", x.off(0), 50);
+        due("changes of all", x.changes(0), 10);
+        due("changed of all", x.changed(), 1023);
+        due("least of all", x.least(0), 0);
+        due("who of all", x.who(), 1023);
+        due("burdens of all", x.burdens(), 90);
+        due("cut of none", x.cut(0, 0), 0);
+        // Of 5 and more one should have it: on one side of each cut there are so many.
+        due("cut of one in ten", x.cut(0, 2), 0);
+        x.give(4, 2);
+        // The fifth has it: right but for 5 and 5, where one of both should.
+        due("cut of one in ten, the fifth", x.cut(0, 2), 2047 - (1 << 5));
+        // No women: their count tells nothing, and any of 1024 groups may be.
+        due("1024 groups", Calls.counts(x, 2, 0), 1024);
+        due("surely", x.surely(), 0);
+        due("look", x.look(), 0);
+        due("all ten", Calls.counts(x, 0, 10), 1);
+        due("surely", x.surely(), 1023);
+        due("the last tram", Calls.counts(x, 11, 0, 0, 9), 10);
+        due("no set", Calls.counts(x, 12, 0), NONE);
+        for (int p = 0; p < 10; p++) {
+            due("leave " + p, x.leave(p), 0);
+        }
+        due("all away", x.now(1), 1023);
+        due("nobody is off", x.now(3), 0);
+        due("8 are kept", x.undo(), 7);
     }
 }

@@ -161,6 +161,9 @@ public final class TextFaultsTest {
         districtFault("tram abcdefg;" + ahead.substring(13) + "abcdefg;", 3, 897);
         districtFault("street a;" + Calls.times(892, " ") + "street a;", 1, 900);
         districtFault("street A;" + Calls.times(892, " "), 1, 7);
+        String streets = "street a;street b;street c;street d;";
+        districtFault(streets + Calls.times(863, " ") + "street e;", 4, 899);
+        districtFault(streets + Calls.times(864, " ") + "street e;", 1, 900);
     }
 
     private static void districtAfterFault() {
@@ -244,6 +247,8 @@ public final class TextFaultsTest {
         bookFault(Calls.times(398, " ") + "year 1;", 1, 400);
         bookFault(Calls.times(396, " ") + "yearling;", 1, 396);
         bookFault(Calls.times(396, " ") + "someone;", 3, 396);
+        bookFault(Calls.times(399, " ") + "someone;", 3, 399);
+        bookFault(Calls.times(400, " ") + "someone;", 1, 400);
     }
 
     private static void sentenceFault(String text, int kind, int place) {
@@ -324,6 +329,8 @@ public final class TextFaultsTest {
         sentenceFault(Calls.times(196, " ") + "woman", 1, 200);
         sentenceFault(Calls.times(193, " ") + "has trumpet", 3, 197);
         sentenceFault(Calls.times(196, " ") + "minds < 3", 1, 200);
+        sentenceFault(Calls.times(195, " ") + "has trumpet", 3, 199);
+        sentenceFault(Calls.times(196, " ") + "has trumpet", 1, 200);
     }
 
     private static void faultStays() {
