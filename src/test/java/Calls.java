@@ -1,4 +1,8 @@
+import java.io.IOException;
 import java.nio.charset.StandardCharsets;
+import java.nio.file.Files;
+import java.nio.file.Path;
+import java.util.Arrays;
 import java.util.NoSuchElementException;
 
 /** What the tests share: texts onto tapes, and answers held against what is due. */
@@ -10,15 +14,52 @@ final class Calls {
     /** Two men, of whom both should have m and none n. */
     static final String PAIR = "street a;person p a man 1;person q a man 2;mark m 1 1;mark n 0 40;has q n;";
 
+    private static final Path DOCUMENT = Path.of("../shared/DOC.md");
+    private static final int PROMISES = 46;
+
     private static int wrong = 0;
+    private static String sentence = "";
+    private static String document = "";
+    private static final boolean[] isQuoted = new boolean[PROMISES + 1];
 
     private Calls() {
+    }
+
+    /** What comes now tests these words of a promise; promise 0: of what stands ahead of the first one. */
+    static void says(int promise, String words) {
+        sentence = (promise == 0 ? "Terms" : "Promise " + promise) + ", '" + words + "': ";
+        isQuoted[promise] = true;
+        due("the document says so", documentPart(promise).contains(words), true);
+    }
+
+    private static String documentPart(int promise) {
+        if (document.isEmpty()) {
+            try {
+                document = new String(Files.readAllBytes(DOCUMENT), StandardCharsets.UTF_8);
+            } catch (IOException e) {
+                throw new IllegalStateException("no document", e);
+            }
+        }
+        int from = promise == 0 ? 0 : document.indexOf("## Promise " + promise + ":");
+        int to = document.indexOf("\n## ", document.indexOf("## Terms") + 1);
+        if (promise > 0) {
+            to = document.indexOf("\n## ", from + 1);
+        }
+        return from < 0 || to < 0 ? "" : document.substring(from, to);
+    }
+
+    /** Each promise must have been quoted by the test that ends. */
+    static void eachPromiseIsQuoted() {
+        sentence = "";
+        for (int promise = 1; promise <= PROMISES; promise++) {
+            due("promise " + promise + " is quoted", isQuoted[promise], true);
+        }
     }
 
     static void due(String what, long got, long want) {
         if (got != want) {
             wrong++;
-            System.out.println(what + " answered " + got + ", due is " + want);
+            System.out.println(sentence + what + " answered " + got + ", due is " + want);
         }
     }
 
@@ -94,6 +135,13 @@ final class Calls {
             text.append((char) x.byteAt(i));
         }
         return text.toString();
+    }
+
+    /** Numbers that are none of 0 to count - 1, those among them that are one of these by a shift or a cast. */
+    static int[] outside(int count) {
+        int[] all = {-1, -2, count, count + 1, 32, 33, 64, 256, 257, 65536, 65537, 1 << 30, -32, -256, -65536,
+            Integer.MIN_VALUE, Integer.MIN_VALUE + 1, Integer.MAX_VALUE, Integer.MAX_VALUE - 1};
+        return Arrays.stream(all).filter(n -> n < 0 || n >= count).toArray();
     }
 
     static String times(int n, String text) {
