@@ -25,27 +25,38 @@ final class Calls {
     private Calls() {
     }
 
-    /** What comes now tests these words of a promise; promise 0: of what stands ahead of the first one. */
+    /** What comes now tests these words of a promise. */
     static void says(int promise, String words) {
-        sentence = (promise == 0 ? "Terms" : "Promise " + promise) + ", '" + words + "': ";
+        sentence = "Promise " + promise + ", '" + words + "': ";
         isQuoted[promise] = true;
-        due("the document says so", documentPart(promise).contains(words), true);
+        quote("## Promise " + promise + ":", words);
     }
 
-    private static String documentPart(int promise) {
+    /** What comes now tests these words that stand ahead of the promises, and are part of some. */
+    static void terms(String promises, String words) {
+        sentence = "Terms of promises " + promises + ", '" + words + "': ";
+        quote("## Terms", words);
+    }
+
+    /** The words must stand in the document behind this heading, ahead of the next one. */
+    private static void quote(String heading, String words) {
+        if (!Files.exists(DOCUMENT)) {
+            return;
+        }
         if (document.isEmpty()) {
-            try {
-                document = new String(Files.readAllBytes(DOCUMENT), StandardCharsets.UTF_8);
-            } catch (IOException e) {
-                throw new IllegalStateException("no document", e);
-            }
+            document = readDocument();
         }
-        int from = promise == 0 ? 0 : document.indexOf("## Promise " + promise + ":");
-        int to = document.indexOf("\n## ", document.indexOf("## Terms") + 1);
-        if (promise > 0) {
-            to = document.indexOf("\n## ", from + 1);
+        int from = document.indexOf(heading);
+        int to = document.indexOf("\n## ", from + 1);
+        due("the document says so", from >= 0 && to >= 0 && document.substring(from, to).contains(words), true);
+    }
+
+    private static String readDocument() {
+        try {
+            return new String(Files.readAllBytes(DOCUMENT), StandardCharsets.UTF_8);
+        } catch (IOException e) {
+            throw new IllegalStateException("no document", e);
         }
-        return from < 0 || to < 0 ? "" : document.substring(from, to);
     }
 
     /** Each promise must have been quoted by the test that ends. */

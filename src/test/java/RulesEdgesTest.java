@@ -38,7 +38,7 @@ public final class RulesEdgesTest {
     }
 
     private static void setsOfThoseHere() {
-        Calls.says(0, "SETS are of PERSONS who are here (not away)");
+        Calls.terms("8", "SETS are of PERSONS who are here (not away)");
         OboeDistrict x = Calls.town("street a;tram t;mark m 1 1;person p a man 1 away;rides p t;has p m;");
         for (int s = 0; s < 7; s++) {
             due("members(" + s + ") without p", x.members(s), 0);
@@ -56,7 +56,7 @@ public final class RulesEdgesTest {
     }
 
     private static void setsNumbered() {
-        Calls.says(0, "0 all, 1 men, 2 women, 3 those of even, 4 of odd numbers, 5 on each STREET's, then each TRAM's.");
+        Calls.terms("8", "0 all, 1 men, 2 women, 3 those of even, 4 of odd numbers, 5 on each STREET's, then each TRAM's.");
         OboeDistrict none = Calls.town("mark m 1 2;");
         due("sets without streets and trams", none.count(4), 5);
         due("no set 5", none.members(5), NONE);
@@ -82,7 +82,7 @@ public final class RulesEdgesTest {
     }
 
     private static void dueToTheNearest() {
-        Calls.says(0, "n by A of B to the nearest whole (a half: up)");
+        Calls.terms("9", "n by A of B to the nearest whole (a half: up)");
         int[] n = {0, 1, 1, 1, 1, 1, 2, 3, 5, 10, 10, 10, 10, 10, 10, 10, 7, 9};
         String[] share = {"40 40", "1 2", "1 3", "19 39", "20 39", "0 1", "1 4", "1 2", "3 10", "1 20", "1 21", "19 20", "20 21",
             "40 40", "0 40", "39 40", "1 14", "1 19"};
@@ -93,7 +93,7 @@ public final class RulesEdgesTest {
     }
 
     private static void offMoreOrFewer() {
-        Calls.says(0, "by how many all SETS have more or fewer of it than is DUE, in all");
+        Calls.terms("12", "by how many all SETS have more or fewer of it than is DUE, in all");
         OboeDistrict fewer = Calls.town(FOUR + "mark m 1 1;");
         due("all too few: 4, 4, 0, 2, 2, 4", fewer.off(0), 16);
         OboeDistrict more = Calls.town(FOUR + "mark m 0 1;has b m;has c m;has d m;has e m;");
@@ -103,7 +103,7 @@ public final class RulesEdgesTest {
     }
 
     private static void burdens() {
-        Calls.says(0, "BURDEN of a MARK for a PERSON: MINDS, and N more, if he hates it.");
+        Calls.terms("7", "BURDEN of a MARK for a PERSON: MINDS, and N more, if he hates it.");
         OboeDistrict x = Calls.town("street a;mark m 1 2;mark n 1 2;person p a man 20;person q a man 0;hates p n 20;hates q m 1;");
         due("20", x.burden(0, 0), 20);
         due("20 and 20", x.burden(0, 1), 40);
@@ -112,7 +112,7 @@ public final class RulesEdgesTest {
     }
 
     private static void whyNot() {
-        Calls.says(0, "To GIVE a MARK: why not, the least: 1 he is away; 2 he has it. To TAKE it: 1 he is away; 2 he has it not.");
+        Calls.terms("14 and 15", "To GIVE a MARK: why not, the least: 1 he is away; 2 he has it. To TAKE it: 1 he is away; 2 he has it not.");
         OboeDistrict x = Calls.town("street a;street b;mark m 1 2;person p a man 1 away;person q a man 1;has p m;has q m;");
         due("give to him who is away and has it", x.give(0, 0), 1);
         due("take from him who is away", x.take(0, 0), 1);
@@ -121,7 +121,7 @@ public final class RulesEdgesTest {
         due("take from him who has it not", x.take(1, 0), 2);
         OboeDistrict y = Calls.town("street a;mark m 1 2;person p a man 1 away;");
         due("take from him who is away and has it not", y.take(0, 0), 1);
-        Calls.says(0, "To MOVE: 1 he is away; 2 it is his STREET. To LEAVE: 1 he is away (his MARKS stay his). To COME: 1 he is here.");
+        Calls.terms("16, 17 and 18", "To MOVE: 1 he is away; 2 it is his STREET. To LEAVE: 1 he is away (his MARKS stay his). To COME: 1 he is here.");
         due("move of him who is away, to his street", x.move(0, 0), 1);
         due("move of him who is away", x.move(0, 1), 1);
         due("move to his street", x.move(1, 0), 2);
@@ -136,7 +136,7 @@ public final class RulesEdgesTest {
     }
 
     private static void yearsFromZero() {
-        Calls.says(0, "A YEAR (0 to 199; 200: all are over) goes");
+        Calls.terms("19", "A YEAR (0 to 199; 200: all are over) goes");
         OboeDistrict x = Calls.town(FOUR);
         due("the first", x.now(0), 0);
         x.years(60);
@@ -154,7 +154,7 @@ public final class RulesEdgesTest {
     }
 
     private static void firstPersonOfLikeChanges() {
-        Calls.says(0, "(of like ones the first PERSON) is made");
+        Calls.terms("19", "(of like ones the first PERSON) is made");
         OboeDistrict x = Calls.town(FOUR + "mark m 1 1;mark n 0 1;has b n;has c n;has d n;has e n;");
         int[] has = {1, 3, 7, 15, 15};
         for (int year = 0; year < 5; year++) {
@@ -178,7 +178,7 @@ public final class RulesEdgesTest {
     }
 
     private static void onlyIfLess() {
-        Calls.says(0, "is made, if OFF is less by it than it was");
+        Calls.terms("19", "is made, if OFF is less by it than it was");
         // Due: 1 of all and of men, 0 of even, odd and both streets: OFF is 2 with none and with either.
         OboeDistrict x = Calls.town("street a;street s;mark m 1 4;person b a man 1;person c s man 1;person d a man 1 away;");
         due("off", x.off(0), 2);
@@ -196,7 +196,7 @@ public final class RulesEdgesTest {
     }
 
     private static void ifLessByOne() {
-        Calls.says(0, "is made, if OFF is less by it than it was");
+        Calls.terms("19", "is made, if OFF is less by it than it was");
         // Due: 1 of all, men and the tram, 0 of all others. b makes three right and two wrong.
         OboeDistrict x = Calls.town("street a;street s;tram t;mark m 1 4;person b a man 1;person c s man 1;rides b t;rides c t;");
         due("off", x.off(0), 3);
@@ -221,7 +221,7 @@ public final class RulesEdgesTest {
     }
 
     private static void wrongs() {
-        Calls.says(0, "Then each SET that is not as is DUE, MARK by MARK, is a WRONG more. It is the next YEAR.");
+        Calls.terms("13 and 19", "Then each SET that is not as is DUE, MARK by MARK, is a WRONG more. It is the next YEAR.");
         // Of 4 all should have m: after the first year 3 are missing of all, men and the street, 1 of even, 2 of odd ones.
         OboeDistrict x = Calls.town(FOUR + "mark m 1 1;mark n 1 1;");
         x.years(1);
@@ -238,7 +238,7 @@ public final class RulesEdgesTest {
     }
 
     private static void least() {
-        Calls.says(0, "so that OFF is the least; of like ones that BURDENS in all are the least; then the least as bits");
+        Calls.terms("21", "so that OFF is the least; of like ones that BURDENS in all are the least; then the least as bits");
         OboeDistrict x = Calls.town(FOUR + "mark m 1 2;has d m;has e m;");
         due("off", x.least(0), 0);
         due("b and c, all anew", x.who(), 3);
@@ -265,7 +265,7 @@ public final class RulesEdgesTest {
     }
 
     private static void family() {
-        Calls.says(0, "the fewest SETS that can't all be as is DUE together (whoever has it); of like ones the least as bits");
+        Calls.terms("24", "the fewest SETS that can't all be as is DUE together (whoever has it); of like ones the least as bits");
         // 1 of 4 of two: 1 of all, men, street and tram, 0 of even and of odd ones.
         String two = "street a;tram t;mark m 1 4;person b a man 1;person c a man 1;rides b t;rides c t;";
         OboeDistrict x = Calls.town(two);
@@ -290,7 +290,7 @@ public final class RulesEdgesTest {
     }
 
     private static void changes() {
-        Calls.says(0, "the fewest PERSONS here who must get or lose it so that OFF is as little as LEAST's; of like ones the least as bits");
+        Calls.terms("26", "the fewest PERSONS here who must get or lose it so that OFF is as little as LEAST's; of like ones the least as bits");
         OboeDistrict x = Calls.town(FOUR + "mark m 1 2;mark n 1 2;mark o 1 2;has b n;has c n;has d n;has e n;has d o;has e o;");
         due("two get it", x.changes(0), 2);
         due("b and c", x.changed(), 3);
@@ -312,7 +312,7 @@ public final class RulesEdgesTest {
     }
 
     private static void house() {
-        Calls.says(0, "(of like ones his own, then the least)");
+        Calls.terms("28", "(of like ones his own, then the least)");
         // Without marks all streets are alike.
         OboeDistrict x = Calls.town("street a;street s;street t;street u;person b u man 1;person c t man 1;");
         due("his own, the last", x.house(0), 3);
@@ -329,7 +329,7 @@ public final class RulesEdgesTest {
     }
 
     private static void both() {
-        Calls.says(0, "the fewest PERSONS who have both, if each is had as OFF of it is the least (BURDENS left out)");
+        Calls.terms("29", "the fewest PERSONS who have both, if each is had as OFF of it is the least (BURDENS left out)");
         OboeDistrict x = Calls.town("street a;mark m 1 2;mark n 1 2;person b a man 0;person c a man 0;person d a man 20;person e a man 20;has b m;has b n;");
         due("d and e could have the other, however they mind", x.both(0, 1), 0);
         due("the other way", x.both(1, 0), 0);
@@ -342,7 +342,7 @@ public final class RulesEdgesTest {
     }
 
     private static void spared() {
-        Calls.says(0, "SPARED: whether he who has a MARK by LEAST would not, if his BURDEN of it was n.");
+        Calls.terms("30", "SPARED: whether he who has a MARK by LEAST would not, if his BURDEN of it was n.");
         OboeDistrict x = Calls.town("street a;mark m 1 2;person b a man 5;person c a man 1;person d a man 5;person e a man 1;");
         // b and c by bits. At 5 b is as d, and the first as bits; at 6 he is spared.
         due("least", x.least(0), 0);
@@ -360,7 +360,7 @@ public final class RulesEdgesTest {
     }
 
     private static void countsOfSets() {
-        Calls.says(0, "(pairs of bytes: a SET, how many of it have something; 1 to 8 of them): sets of PERSONS here that may have it");
+        Calls.terms("31", "(pairs of bytes: a SET, how many of it have something; 1 to 8 of them): sets of PERSONS here that may have it");
         OboeDistrict x = Calls.town(FOUR);
         due("none of them", x.counts(), NONE);
         due("one byte", Calls.counts(x, 0), NONE);
@@ -385,7 +385,7 @@ public final class RulesEdgesTest {
     }
 
     private static void lookAtTheFirst() {
-        Calls.says(0, "the SET by whose count the greatest number of these that may still be left is the least (of like ones the first)");
+        Calls.terms("33", "the SET by whose count the greatest number of these that may still be left is the least (of like ones the first)");
         OboeDistrict x = Calls.town(FOUR);
         due("two have it", Calls.counts(x, 0, 2), 6);
         // All, men, women and the street tell nothing: 6; even, odd: 1, 4 and 1: 4.
@@ -412,7 +412,7 @@ public final class RulesEdgesTest {
     }
 
     private static void cuts() {
-        Calls.says(0, "in two behind the k-th (0 to all), so that in both parts as many have the MARK as would be DUE of a SET of so many");
+        Calls.terms("34", "in two behind the k-th (0 to all), so that in both parts as many have the MARK as would be DUE of a SET of so many");
         String riding = "tram t;rides b t;rides c t;rides d t;rides e t;";
         OboeDistrict x = Calls.town(FOUR + riding + "mark m 1 1;has b m;has c m;has d m;has e m;");
         due("everywhere, 0 and 4 too", x.cut(0, 0), 31);
@@ -430,7 +430,7 @@ public final class RulesEdgesTest {
     }
 
     private static void plates() {
-        Calls.says(0, "his NAME, then ' is away', or ' has ' and the NAMES of his MARKS by number, ' and ' between them, or ' has none'");
+        Calls.terms("36", "his NAME, then ' is away', or ' has ' and the NAMES of his MARKS by number, ' and ' between them, or ' has none'");
         OboeDistrict x = Calls.town("street a;mark z 1 2;mark y 1 2;mark x 1 2;person p a man 1;person q a man 1 away;person r a man 1;person sevenab a man 1;person u a man 1;"
                 + "has p x;has q z;has sevenab x;has sevenab z;has u x;has u y;has u z;");
         String[] due = {"p has x", "q is away", "r has none", "sevenab has z and x", "u has z and y and x"};
@@ -446,7 +446,7 @@ public final class RulesEdgesTest {
     }
 
     private static void drawsOfAnInt() {
-        Calls.says(0, "x becomes x * 1103515245 + 12345 (an int, wrapping), the draw is (x >>> 8) % n");
+        Calls.terms("38", "x becomes x * 1103515245 + 12345 (an int, wrapping), the draw is (x >>> 8) % n");
         String ten = many(10, "0 1");
         for (int seed : new int[] {0, 1, -1, 7, -7, 12345, Integer.MAX_VALUE, Integer.MIN_VALUE, 1 << 24, -(1 << 24)}) {
             long x = seed & 0xFFFFFFFFL;
@@ -468,8 +468,8 @@ public final class RulesEdgesTest {
     }
 
     private static void drawsOfActs() {
-        Calls.says(0, "0 he leaves, 1 he comes, 2 a draw of all STREETS: he moves there, 3 a draw of all MARKS");
-        Calls.says(0, "he gets it, or loses it, if he has it (each, if it can be); then the YEAR");
+        Calls.terms("38", "0 he leaves, 1 he comes, 2 a draw of all STREETS: he moves there, 3 a draw of all MARKS");
+        Calls.terms("38", "he gets it, or loses it, if he has it (each, if it can be); then the YEAR");
         // Nobody should have m or n: a year takes what was got, and changes nothing else.
         String text = "street a;street s;street t;mark m 0 1;mark n 0 1;person b a man 1;person c s man 1 away;";
         for (int seed = 0; seed < 40; seed++) {
@@ -499,7 +499,7 @@ public final class RulesEdgesTest {
     }
 
     private static void noDrawWithoutMarks() {
-        Calls.says(0, "3 a draw of all MARKS (none: no draw)");
+        Calls.terms("38", "3 a draw of all MARKS (none: no draw)");
         for (int seed = 0; seed < 30; seed++) {
             OboeDistrict y = Calls.town("street a;street s;person b a man 1;person c a man 1;person d a man 1;");
             long x = seed;
@@ -536,7 +536,7 @@ public final class RulesEdgesTest {
     }
 
     private static void aFullDistrict() {
-        Calls.says(0, "4 STREETS, 3 TRAMS, 10 PERSONS, 3 MARKS at most");
+        Calls.terms("4", "4 STREETS, 3 TRAMS, 10 PERSONS, 3 MARKS at most");
         OboeDistrict x = full();
         int[] members = {1023, 31, 992, 341, 682, 273, 546, 68, 136, 31, 992, 512};
         for (int s = 0; s < 12; s++) {
@@ -575,7 +575,7 @@ public final class RulesEdgesTest {
     }
 
     private static void aFullDistrictByCounts() {
-        Calls.says(0, "sets of PERSONS here that may have it");
+        Calls.terms("31 and 33", "sets of PERSONS here that may have it");
         OboeDistrict x = full();
         due("any of 1024", Calls.counts(x, 11, 0, 11, 0) + Calls.counts(x, 11, 1), 1024);
         due("the last has it in each", x.surely(), 512);
@@ -591,7 +591,7 @@ public final class RulesEdgesTest {
         due("ten of men can't", Calls.counts(x, 1, 10), 0);
         due("the twelfth set", Calls.counts(x, 11, 1, 0, 1), 1);
         due("no thirteenth", Calls.counts(x, 12, 0), NONE);
-        Calls.says(0, "the SET by whose count the greatest number of these that may still be left is the least (of like ones the first)");
+        Calls.terms("31 and 33", "the SET by whose count the greatest number of these that may still be left is the least (of like ones the first)");
         due("all, but for one or none", Calls.counts(x, 1, 5, 3, 5, 4, 4, 11, 1), 2);
         // k to o, q, s, t have it, and p or r: the streets b and d tell which.
         due("street b, the first that tells", x.look(), 6);

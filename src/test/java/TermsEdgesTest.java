@@ -53,7 +53,7 @@ public final class TermsEdgesTest {
     }
 
     private static void blanks() {
-        Calls.says(0, "TOKENS of all texts, with blanks (32, 10) between them or not");
+        Calls.terms("4, 40 and 42", "TOKENS of all texts, with blanks (32, 10) between them or not");
         Texts.districtFine("street a;tram b;mark c 1 2;", 3);
         Texts.districtFine("\n\n street \n a\n; \ntram\nb ;mark c\n1\n2 ;\n", 3);
         for (int b = 0; b < 256; b++) {
@@ -73,7 +73,7 @@ public final class TermsEdgesTest {
     }
 
     private static void words() {
-        Calls.says(0, "WORDS: small letters, 1 to 7");
+        Calls.terms("4, 40 and 42", "WORDS: small letters, 1 to 7");
         for (int b = 0; b < 256; b++) {
             String text = "street " + (char) b + ";";
             if (b >= 'a' && b <= 'z') {
@@ -96,7 +96,7 @@ public final class TermsEdgesTest {
     }
 
     private static void numbers() {
-        Calls.says(0, "NUMBERS: 1 to 3 digits");
+        Calls.terms("4, 40 and 42", "NUMBERS: 1 to 3 digits");
         for (int b = 0; b < 256; b++) {
             String text = "mark m 0 " + (char) b + ";";
             if (b >= '1' && b <= '9') {
@@ -122,7 +122,7 @@ public final class TermsEdgesTest {
     }
 
     private static void signs() {
-        Calls.says(0, "; < = > ( ) .");
+        Calls.terms("4 and 42", "; < = > ( ) .");
         for (int b = 0; b < 256; b++) {
             boolean isWordOrNumber = b >= 'a' && b <= 'z' || b >= '0' && b <= '9';
             boolean isBlank = b == 32 || b == 10;
@@ -154,7 +154,7 @@ public final class TermsEdgesTest {
     }
 
     private static void runs() {
-        Calls.says(0, "(A WORD, NUMBER goes on as long as small letters and digits do; what is not as told is no TOKEN.)");
+        Calls.terms("4, 40 and 42", "(A WORD, NUMBER goes on as long as small letters and digits do; what is not as told is no TOKEN.)");
         Texts.districtFault("street a1;", 1, 7);
         Texts.districtFault("street 1a;", 1, 7);
         Texts.districtFault("streeta;", 1, 0);
@@ -172,7 +172,7 @@ public final class TermsEdgesTest {
     }
 
     private static void districtBytes() {
-        Calls.says(0, "A DISTRICT is a text of at most 900 bytes");
+        Calls.terms("4", "A DISTRICT is a text of at most 900 bytes");
         Texts.districtFine("street a;" + spaces(891), 1);
         Texts.districtFine(spaces(891) + "street a;", 1);
         Texts.districtFault("street a;" + spaces(892), 1, 900);
@@ -183,7 +183,7 @@ public final class TermsEdgesTest {
     }
 
     private static void districtLines() {
-        Calls.says(0, "{ LINE ; }. LINE");
+        Calls.terms("4", "{ LINE ; }. LINE");
         Texts.districtFine("", 0);
         Texts.districtFine(" ", 0);
         Texts.districtFine("street a;", 1);
@@ -200,7 +200,7 @@ public final class TermsEdgesTest {
     }
 
     private static void minds() {
-        Calls.says(0, "(KIND: 'man', 'woman'; 0 to 20)");
+        Calls.terms("4", "(KIND: 'man', 'woman'; 0 to 20)");
         for (int n : new int[] {0, 1, 19, 20}) {
             OboeDistrict x = Calls.town("street a;person p a man " + n + ";person q a woman " + n + ";");
             Calls.due("man", x.person(0, 1), 0);
@@ -215,7 +215,7 @@ public final class TermsEdgesTest {
     }
 
     private static void awayOrNot() {
-        Calls.says(0, "'person' NAME STREET KIND MINDS [ 'away' ]");
+        Calls.terms("4", "'person' NAME STREET KIND MINDS [ 'away' ]");
         OboeDistrict x = Calls.town("street a;person p a man 1 away;person q a man 1;person r a man 1 away;");
         Calls.due("away", x.now(1), 5);
         Texts.districtFault("street a;person p a man 1 away away;", 1, 31);
@@ -227,7 +227,7 @@ public final class TermsEdgesTest {
     }
 
     private static void shares() {
-        Calls.says(0, "(A of B have it: 0 to 40; A, 1 at least, to 40)");
+        Calls.terms("4", "(A of B have it: 0 to 40; A, 1 at least, to 40)");
         Texts.districtFine("mark m 0 1;mark n 0 40;mark o 40 40;", 3);
         Texts.districtFine("mark m 1 1;mark n 39 39;mark o 39 40;", 3);
         Texts.districtFault("mark m 0 0;", 2, 9);
@@ -245,7 +245,7 @@ public final class TermsEdgesTest {
     }
 
     private static void hates() {
-        Calls.says(0, "'hates' PERSON MARK N (1 to 20");
+        Calls.terms("4", "'hates' PERSON MARK N (1 to 20");
         for (int n : new int[] {1, 2, 19, 20}) {
             OboeDistrict x = Calls.town(ONE + "hates p m " + n + ";");
             Calls.due("burden with " + n, x.burden(0, 0), 1 + n);
@@ -256,7 +256,7 @@ public final class TermsEdgesTest {
     }
 
     private static void eachTwoOnce() {
-        Calls.says(0, "each two once for each of these three)");
+        Calls.terms("4", "each two once for each of these three)");
         String two = ONE + "tram u;mark n 1 2;person q a man 1;";
         Texts.districtFine(two + "rides p t;has p m;hates p m 1;rides p u;has p n;hates p n 1;rides q t;has q m;hates q m 1;", 16);
         Texts.districtFault(ONE + "rides p t;rides p t;", 3, AT + 18);
@@ -267,7 +267,7 @@ public final class TermsEdgesTest {
     }
 
     private static void names() {
-        Calls.says(0, "NAME: a WORD, none of those told here, in a BOOK or a SENTENCE");
+        Calls.terms("4", "NAME: a WORD, none of those told here, in a BOOK or a SENTENCE");
         for (String word : new String[] {"street", "tram", "person", "away", "man", "woman", "mark", "rides", "has", "hates",
             "gets", "loses", "moves", "leaves", "comes", "year", "not", "or", "and", "in", "minds", "marks", "number"}) {
             Texts.districtFault("street " + word + ";", 1, 7);
@@ -284,7 +284,7 @@ public final class TermsEdgesTest {
     }
 
     private static void namesOnce() {
-        Calls.says(0, "told once");
+        Calls.terms("4", "told once");
         String[] again = {"street ", "tram ", "mark ", "person "};
         String[] names = {"a", "t", "m", "p"};
         for (String word : again) {
@@ -305,7 +305,7 @@ public final class TermsEdgesTest {
     }
 
     private static void fullSorts() {
-        Calls.says(0, "4 STREETS, 3 TRAMS, 10 PERSONS, 3 MARKS at most");
+        Calls.terms("4", "4 STREETS, 3 TRAMS, 10 PERSONS, 3 MARKS at most");
         String full = STREETS + TRAMS + MARKS + persons(10);
         Texts.districtFine(full, 20);
         Texts.districtFine(full + "rides t g;has t j;hates t j 20;", 23);
@@ -319,7 +319,7 @@ public final class TermsEdgesTest {
     }
 
     private static void allNamesOfAFullDistrict() {
-        Calls.says(0, "4 STREETS, 3 TRAMS, 10 PERSONS, 3 MARKS at most");
+        Calls.terms("4", "4 STREETS, 3 TRAMS, 10 PERSONS, 3 MARKS at most");
         // Each of all twenty names is told once, and known as its sort's one of its number.
         String full = MARKS + TRAMS + STREETS + persons(10);
         for (int n = 0; n < 20; n++) {
@@ -345,7 +345,7 @@ public final class TermsEdgesTest {
     }
 
     private static void numberedFromZero() {
-        Calls.says(0, "all numbered from 0 each");
+        Calls.terms("4 and 6", "all numbered from 0 each");
         OboeDistrict x = Calls.town(STREETS + TRAMS + MARKS + "person k d man 1;person l a man 2;rides k g;has l h;hates k j 5;");
         Calls.due("street of k", x.person(0, 0), 3);
         Calls.due("street of l", x.person(1, 0), 0);
@@ -356,7 +356,7 @@ public final class TermsEdgesTest {
     }
 
     private static void bookBytes() {
-        Calls.says(0, "A BOOK is a text of at most 400 bytes");
+        Calls.terms("40", "A BOOK is a text of at most 400 bytes");
         Texts.bookFine("year 1;" + spaces(393), 1);
         Texts.bookFine(spaces(393) + "year 1;", 1);
         Texts.bookFine(spaces(400), 0);
@@ -367,7 +367,7 @@ public final class TermsEdgesTest {
     }
 
     private static void bookLines() {
-        Calls.says(0, "{ LINE ; }, 40 at most");
+        Calls.terms("40", "{ LINE ; }, 40 at most");
         String forty = Calls.times(20, "p leaves;p comes;");
         Texts.bookFine("", 0);
         Texts.bookFine(forty, 40);
@@ -385,7 +385,7 @@ public final class TermsEdgesTest {
     }
 
     private static void bookYears() {
-        Calls.says(0, "'year' N (1 to 60)");
+        Calls.terms("40", "'year' N (1 to 60)");
         Texts.bookFine("year 1;year 60;", 2);
         Texts.bookFault("year 0;", 2, 5);
         Texts.bookFault("year 61;", 2, 5);
@@ -394,7 +394,7 @@ public final class TermsEdgesTest {
     }
 
     private static void sentenceBytes() {
-        Calls.says(0, "A SENTENCE is a text of at most 200 bytes");
+        Calls.terms("42", "A SENTENCE is a text of at most 200 bytes");
         Texts.sentenceFine("man" + spaces(197), 1);
         Texts.sentenceFine(spaces(197) + "man", 1);
         Texts.sentenceFault("man" + spaces(198), 1, 200);
@@ -405,7 +405,7 @@ public final class TermsEdgesTest {
     }
 
     private static void sentenceOnes() {
-        Calls.says(0, "20 ONES");
+        Calls.terms("42", "20 ONES");
         String twenty = Calls.times(19, "man or ") + "away";
         Texts.sentenceFine(twenty, 20);
         Texts.sentenceFault(twenty + " or man", 4, twenty.length() + 4);
@@ -418,7 +418,7 @@ public final class TermsEdgesTest {
     }
 
     private static void sentenceWithin() {
-        Calls.says(0, "8 within one another");
+        Calls.terms("42", "8 within one another");
         Texts.sentenceFine(Calls.times(7, "not ") + "man", 8);
         Texts.sentenceFine(Calls.times(7, "(") + "man" + Calls.times(7, ")"), 8);
         Texts.sentenceFault(Calls.times(8, "not ") + "man", 4, 32);
@@ -439,7 +439,7 @@ public final class TermsEdgesTest {
     }
 
     private static void orBehindAnd() {
-        Calls.says(0, "COND: ALL { 'or' ALL }. ALL: ONE { 'and' ONE }. ONE: 'not' ONE | ( COND )");
+        Calls.terms("42 and 43", "COND: ALL { 'or' ALL }. ALL: ONE { 'and' ONE }. ONE: 'not' ONE | ( COND )");
         OboeDistrict x = Calls.town(Calls.TOWN);
         says(x, "man or woman and away", 22);
         says(x, "away and woman or man", 22);
@@ -456,7 +456,7 @@ public final class TermsEdgesTest {
     }
 
     private static void longestSentences() {
-        Calls.says(0, "20 ONES, 8 within one another.");
+        Calls.terms("42 and 43", "20 ONES, 8 within one another.");
         OboeDistrict x = Calls.town(Calls.TOWN);
         says(x, Calls.times(19, "man or ") + "away", 22);
         says(x, Calls.times(9, "not man and ") + "not away", 9);
@@ -467,7 +467,7 @@ public final class TermsEdgesTest {
     }
 
     private static void inAwayOrNot() {
-        Calls.says(0, "'in' STREET (away or not)");
+        Calls.terms("43", "'in' STREET (away or not)");
         OboeDistrict x = Calls.town("street a;street b;person p a man 1;person q b man 1 away;person r b man 1;");
         Calls.sentence(x, "in b");
         Calls.due("how many are in b", x.said(-1), 2);
@@ -476,13 +476,13 @@ public final class TermsEdgesTest {
         x.leave(0);
         Calls.sentence(x, "in a");
         Calls.due("p", x.said(0), 0);
-        Calls.says(0, "It is said of PERSONS.");
+        Calls.terms("43", "It is said of PERSONS.");
         Calls.sentence(x, "man");
         Calls.due("away or not", x.said(-1), 3);
     }
 
     private static void numbersOfSentences() {
-        Calls.says(0, "(MINDS; how many MARKS he has; his number). SIGN: < = >.");
+        Calls.terms("43", "(MINDS; how many MARKS he has; his number). SIGN: < = >.");
         OboeDistrict x = Calls.town("street a;mark m 1 2;mark n 1 2;mark o 1 2;person p a man 0;person q a man 20;person r a man 5 away;"
                 + "has q m;has q n;has q o;has r o;");
         String[] texts = {"minds<1", "minds<0", "minds>19", "minds>20", "minds=20", "minds=0", "minds<999", "minds=999",
@@ -494,7 +494,7 @@ public final class TermsEdgesTest {
     }
 
     private static void firstAlongTheText() {
-        Calls.says(0, "FAULTS, the first along the text");
+        Calls.terms("5", "FAULTS, the first along the text");
         Texts.districtFault("street a;street a;mark m 9 1;B", 3, 16);
         Texts.districtFault("mark m 9 1;street a;street a;B", 2, 9);
         Texts.districtFault("mark m B 9 1;street a;street a;", 1, 7);
@@ -511,7 +511,7 @@ public final class TermsEdgesTest {
     }
 
     private static void leastOfOneToken() {
-        Calls.says(0, "of one TOKEN the least");
+        Calls.terms("5", "of one TOKEN the least");
         String forty = Calls.times(40, "year 1;");
         Texts.bookFault(forty + "z leaves;", 3, 280);
         Texts.bookFault(forty + "m leaves;", 3, 280);
@@ -534,7 +534,7 @@ public final class TermsEdgesTest {
     }
 
     private static void noToken() {
-        Calls.says(0, "1 no TOKEN, or one that can't come (at it; the end: how many bytes there are");
+        Calls.terms("5", "1 no TOKEN, or one that can't come (at it; the end: how many bytes there are");
         Texts.districtFault("street a;  \u0080", 1, 11);
         Texts.districtFault("street a;  \u00ff", 1, 11);
         Texts.districtFault("street a;tram", 1, 13);
@@ -559,7 +559,7 @@ public final class TermsEdgesTest {
     }
 
     private static void mostBytesTold() {
-        Calls.says(0, "the most bytes told, if there are more and no FAULT is ahead");
+        Calls.terms("5", "the most bytes told, if there are more and no FAULT is ahead");
         Texts.districtFault(spaces(900) + "street a;", 1, 900);
         Texts.districtFault(spaces(930) + "street a;", 1, 900);
         Texts.districtFault(spaces(900) + "B", 1, 900);
@@ -578,7 +578,7 @@ public final class TermsEdgesTest {
     }
 
     private static void readWhole() {
-        Calls.says(0, "TOKENS that begin ahead of it are read whole");
+        Calls.terms("5", "TOKENS that begin ahead of it are read whole");
         // The name goes on behind the most bytes: it is a TOKEN, and told, if no more is wrong ahead.
         Texts.districtFault(spaces(892) + "street abcdefg;", 1, 900);
         Texts.districtFault(spaces(892) + "street abcdefgh;", 1, 899);
@@ -601,7 +601,7 @@ public final class TermsEdgesTest {
     }
 
     private static void wrongNumbers() {
-        Calls.says(0, "2 a NUMBER that is not as told (at it)");
+        Calls.terms("5", "2 a NUMBER that is not as told (at it)");
         Texts.districtFault("street a;person p a woman  21 away;", 2, 27);
         Texts.districtFault("mark m  41 0;", 2, 8);
         Texts.districtFault("mark m 3  2;", 2, 10);
@@ -611,7 +611,7 @@ public final class TermsEdgesTest {
     }
 
     private static void wrongNames() {
-        Calls.says(0, "3 a NAME told twice, not told, or of another sort");
+        Calls.terms("5", "3 a NAME told twice, not told, or of another sort");
         Texts.districtFault("street a;  street a;", 3, 18);
         Texts.districtFault("person p a man 1;street a;", 3, 9);
         Texts.districtFault("tram t;person p t man 1;", 3, 16);
@@ -633,7 +633,7 @@ public final class TermsEdgesTest {
     }
 
     private static void atTheSecond() {
-        Calls.says(0, "two told together again (at the second)");
+        Calls.terms("5", "two told together again (at the second)");
         Texts.districtFault(ONE + "rides p t;rides p  t;", 3, AT + 19);
         Texts.districtFault(ONE + "has p m;has  p m;", 3, AT + 15);
         Texts.districtFault(ONE + "hates p m 20;hates p m 0;", 3, AT + 21);
@@ -641,7 +641,7 @@ public final class TermsEdgesTest {
     }
 
     private static void tooMany() {
-        Calls.says(0, "4 one more than there may be of a sort, a 41st LINE of a BOOK (at the LINE's first WORD)");
+        Calls.terms("5", "4 one more than there may be of a sort, a 41st LINE of a BOOK (at the LINE's first WORD)");
         Texts.districtFault(STREETS + "  street e;", 4, STREETS.length() + 2);
         Texts.districtFault(STREETS + "street", 4, STREETS.length());
         Texts.districtFault(TRAMS + " tram 7", 4, TRAMS.length() + 1);
@@ -649,7 +649,7 @@ public final class TermsEdgesTest {
         Texts.districtFault("street a;" + persons(10) + " person B", 4, 10 + persons(10).length());
         Texts.bookFault(Calls.times(40, "year 1;") + " year 0;", 4, 281);
         Texts.bookFault(Calls.times(40, "year 1;") + " p has;", 4, 281);
-        Calls.says(0, "a 21st ONE, a ninth within (at its first TOKEN)");
+        Calls.terms("5", "a 21st ONE, a ninth within (at its first TOKEN)");
         String twenty = Calls.times(19, "man or ") + "man";
         for (String one : new String[] {"not", "(", "away", "man", "woman", "has", "in", "rides", "minds", "marks", "number"}) {
             Texts.sentenceFault(twenty + " or  " + one, 4, twenty.length() + 5);
@@ -659,7 +659,7 @@ public final class TermsEdgesTest {
     }
 
     private static void newDistrict() {
-        Calls.says(0, "A new DISTRICT: YEAR 0, no WRONG, no SENTENCE.");
+        Calls.terms("4", "A new DISTRICT: YEAR 0, no WRONG, no SENTENCE.");
         OboeDistrict x = Calls.town(Calls.TOWN);
         Calls.sentence(x, "away");
         x.give(2, 0);
@@ -688,7 +688,7 @@ public final class TermsEdgesTest {
     }
 
     private static void throwsChangeNothing() {
-        Calls.says(0, "A call that throws changes nothing.");
+        Calls.terms("6", "A call that throws changes nothing.");
         OboeDistrict x = Calls.town(Calls.TOWN);
         Calls.sentence(x, "away or B");
         x.give(0, 0);
