@@ -14,9 +14,11 @@ public final class RulesEdgesTest {
         firstPersonOfLikeChanges();
         onlyIfLess();
         ifLessByOne();
+        byAllSetsOfEach();
         wrongs();
         least();
         family();
+        familiesOfSharedPersons();
         changes();
         house();
         both();
@@ -220,6 +222,33 @@ public final class RulesEdgesTest {
         due("b lost it", y.person(0, 4), 0);
     }
 
+    private static void byAllSetsOfEach() {
+        Calls.terms("19", "that by which OFF of it is the least (of like ones the first PERSON) is made, if OFF is less by it than it was");
+        // Due: 2 of all, 1 of each other set. By b four sets come right and three trams wrong, by d four come right.
+        OboeDistrict x = Calls.town("street a;street s;street v;tram t;tram u;tram w;mark m 1 2;person b a woman 1;person c s man 1;person d v woman 1;"
+                + "rides b t;rides b u;rides b w;rides c t;rides c u;rides c w;has c m;");
+        due("off", x.off(0), 5);
+        x.years(1);
+        due("not b, by whom it is less by one", x.person(0, 4), 0);
+        due("d, by whom it is less by four", x.person(2, 4), 1);
+        due("off", x.off(0), 1);
+        due("one change", x.now(5), 1);
+        due("one wrong", x.now(2), 1);
+        // Due: 1 of each set. By c women, odd ones and tram u come right; all, the street and tram t come wrong.
+        OboeDistrict y = Calls.town("street a;tram t;tram u;mark m 1 2;person b a man 1;person c a woman 1;rides b t;rides c t;rides c u;has b m;");
+        due("off", y.off(0), 3);
+        y.years(1);
+        due("as much as it was: no change", y.now(5), 0);
+        due("c has it not", y.person(1, 4), 0);
+        due("three wrongs", y.now(2), 3);
+        y.give(1, 0);
+        due("off", y.off(0), 3);
+        y.years(1);
+        due("c does not lose it: as much as it was", y.person(1, 4), 1);
+        due("b does: three come right, men and even ones wrong", y.person(0, 4), 0);
+        due("off", y.off(0), 2);
+    }
+
     private static void wrongs() {
         Calls.terms("13 and 19", "Then each SET that is not as is DUE, MARK by MARK, is a WRONG more. It is the next YEAR.");
         // Of 4 all should have m: after the first year 3 are missing of all, men and the street, 1 of even, 2 of odd ones.
@@ -287,6 +316,32 @@ public final class RulesEdgesTest {
         z.leave(1);
         z.leave(2);
         due("of one who is here all can be right", z.family(1), NONE);
+    }
+
+    private static void familiesOfSharedPersons() {
+        Calls.terms("24", "the fewest SETS that can't all be as is DUE together (whoever has it); of like ones the least as bits");
+        // 1 of both, but of neither the man nor the woman; the tram of b alone and the street can be right by c.
+        family("street a;tram t;mark m 1 3;person b a man 1;person c a woman 1;rides b t;", 1 + 2 + 4);
+        // 1 of both, but of the man 1 and of the woman 1: even and odd ones, too, but they are more as bits.
+        family("street a;mark m 3 5;person b a woman 1;person c a man 1;", 1 + 2 + 4);
+        // 5 of 7, but 3 of the 5 on a and 1 of the 2 on s; men 3 and women 2, even 3 and odd ones 2 are 5.
+        family("street a;street s;mark m 2 3;person b s man 1;person c a woman 1;person d a man 1;person e s man 1;person f a woman 1;"
+                + "person g a man 1;person h a woman 1;", 1 + 32 + 64);
+        // c, alone on the tram, must have it, and 2 of the 3 men, but 2 of these four, who are all on a.
+        family("street a;street s;tram t;mark m 1 2;person b s woman 1;person c a woman 1;person d a man 1;person e a man 1;person f a man 1;"
+                + "rides c t;", 2 + 32 + 128);
+        // 1 of all, and that an even one: so not e, but one of b and e and one of e and f.
+        family("street a;tram t;tram u;tram v;mark m 1 3;person b a man 1;person c a man 1 away;person d a man 1;person e a man 1;person f a man 1;"
+                + "rides b u;rides e u;rides e v;rides f v;", 1 + 8 + 128 + 256);
+        // All but one have it, both men too: but on one tram b or c lacks it, and on the other d.
+        family("street a;tram t;tram u;mark m 4 5;person b a woman 1;person c a woman 1;person d a woman 1;person e a man 1;person f a man 1;"
+                + "rides b t;rides c t;rides e t;rides d u;rides e u;rides f u;", 1 + 2 + 64 + 128);
+    }
+
+    private static void family(String text, int sets) {
+        OboeDistrict x = Calls.town(text);
+        due("how many of " + text, x.family(0), Integer.bitCount(sets));
+        due("which of " + text, x.familyOf(), sets);
     }
 
     private static void changes() {
